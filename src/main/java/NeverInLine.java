@@ -8,7 +8,8 @@ public final class NeverInLine {
     private static final int WIDTH = 30, POINTS = 900;
     private static final int MOST_TOWERS = 10, MOST_ROADS = 4, MOST_CORNERS = 6, MOST_FORESTS = 8;
     private static final int MOST_SIGHTS = 10, MOST_BODIES = 50, MOST_SHELVES = 6;
-    private static final int FAULT_BASE = -100;
+    private static final int FAULT_BASE = -100, ENDLESS = 1000000;
+    private static final long NO_ELEMENT = -9223372036854775808L;
 
     private final Law rule = new Law();
     private final Reader reader = new Reader();
@@ -146,7 +147,9 @@ public final class NeverInLine {
         if (guilt == Plain.INNOCENT) {
             return NOT;
         }
-        return part == 0 ? guilt / Plain.SHARE : guilt % Plain.SHARE;
+        int above = guilt / Plain.SHARE;
+        int below = guilt % Plain.SHARE;
+        return (part == 0 ? above : below) / greatestDivisor(above, below);
     }
 
     public int guilts(int road) {
@@ -342,7 +345,7 @@ public final class NeverInLine {
     }
 
     public long element(int shelf, int i) {
-        return cellRefusal(shelf, i) != 0 ? Long.MIN_VALUE : shelves[shelf].cells[i];
+        return cellRefusal(shelf, i) != 0 ? NO_ELEMENT : shelves[shelf].cells[i];
     }
 
     public int shift(int shelf, int i, int other, int j, int n) {
@@ -426,6 +429,18 @@ public final class NeverInLine {
 
     private boolean isStretch(int ri) {
         return ri >= 0 && plain.isRoad(ri / 10) && ri % 10 + 1 < plain.turns[ri / 10];
+    }
+
+    /** Of two numbers from 0 on; at least 1. */
+    private static int greatestDivisor(int a, int b) {
+        int rest = a;
+        int divisor = b;
+        for (int steps = 0; rest != 0 && steps < 64; steps++) {
+            int left = divisor % rest;
+            divisor = rest;
+            rest = left;
+        }
+        return Math.max(divisor, 1);
     }
 
     /** Why there is no cell i on a shelf; 0 if there is one. */
@@ -690,9 +705,9 @@ public final class NeverInLine {
     private static final class Plain {
         // Two slots behind the towers' own serve the game's towers, which are only thought of.
         static final int SLOTS = MOST_TOWERS + 2, INNOCENT = -1;
-        // A guilt's fraction is one int: above the line times SHARE, and below it (at most 1682).
+        // A guilt's fraction is one int: above the line times SHARE, and below it (at most 1682, not in lowest terms).
         static final int SHARE = 4096;
-        private static final byte YES = 1, NO = 2;
+        private static final int UNASKED = 0, YES = 1, NO = 2;
 
         final int[] x = new int[SLOTS];
         final int[] y = new int[SLOTS];
@@ -710,8 +725,8 @@ public final class NeverInLine {
         private final int[] forestBy = new int[MOST_FORESTS];
         private final Law rule;
         private final int[] names = new int[Law.NAMES];
-        // What the law says of a road's number, a nearer and a further tower; 0 where not asked yet.
-        private final byte[] verdicts = new byte[(MOST_ROADS + 1) * SLOTS * SLOTS];
+        // What the law says of a road's number, a nearer and a further tower, once asked.
+        private final int[] verdicts = new int[(MOST_ROADS + 1) * SLOTS * SLOTS];
 
         Plain(Law rule) {
             this.rule = rule;
@@ -817,7 +832,7 @@ public final class NeverInLine {
         }
 
         void forgetVerdicts() {
-            Arrays.fill(verdicts, (byte) 0);
+            Arrays.fill(verdicts, UNASKED);
         }
 
         boolean hasTower(int point) {
@@ -843,7 +858,7 @@ public final class NeverInLine {
         /** Whether the law counts two towers, the nearer one named first. */
         private boolean counts(int k, int near, int far) {
             int at = (k * SLOTS + near) * SLOTS + far;
-            if (verdicts[at] == 0) {
+            if (verdicts[at] == UNASKED) {
                 names[0] = height[near];
                 names[1] = height[far];
                 names[2] = old[near] + old[far];
@@ -943,30 +958,16 @@ public final class NeverInLine {
             }
             int above = Math.abs(sideA);
             int below = above + Math.abs(sideB);
-            int common = greatestDivisor(above, below);
-            above /= common;
-            below /= common;
             int px = ax * below + (bx - ax) * above;
             int py = ay * below + (by - ay) * above;
             return lineUp(px, py, below, k, s, t) ? above * SHARE + below : INNOCENT;
         }
 
-        /** Of two numbers from 0 on; at least 1. */
-        private static int greatestDivisor(int a, int b) {
-            int rest = a;
-            int divisor = b;
-            for (int steps = 0; rest != 0 && steps < 64; steps++) {
-                int left = divisor % rest;
-                divisor = rest;
-                rest = left;
-            }
-            return Math.max(divisor, 1);
-        }
-
-        int guiltsBetween(int a, int b, int k) {
+        /** How many guilts the way from point a to point b has; counted no further than the limit. */
+        int guiltsBetween(int a, int b, int k, int limit) {
             int guilts = 0;
             for (int s = 0; s < standing; s++) {
-                for (int t = s + 1; t < standing; t++) {
+                for (int t = s + 1; t < standing && guilts < limit; t++) {
                     if (guiltBetween(a, b, k, s, t) != INNOCENT) {
                         guilts++;
                     }
@@ -978,7 +979,7 @@ public final class NeverInLine {
         int roadGuilts(int road) {
             int guilts = 0;
             for (int i = 0; i + 1 < turns[road]; i++) {
-                guilts += guiltsBetween(cornerAt(road, i), cornerAt(road, i + 1), road);
+                guilts += guiltsBetween(cornerAt(road, i), cornerAt(road, i + 1), road, ENDLESS);
             }
             return guilts;
         }
@@ -987,7 +988,7 @@ public final class NeverInLine {
             int guilts = 0;
             for (int r = 0; r < roads; r++) {
                 for (int i = 0; i + 1 < turns[r]; i++) {
-                    guilts += guiltsBetween(cornerAt(r, i), cornerAt(r, i + 1), r);
+                    guilts += guiltsBetween(cornerAt(r, i), cornerAt(r, i + 1), r, ENDLESS);
                 }
             }
             return guilts;
@@ -1147,7 +1148,7 @@ public final class NeverInLine {
         /** The towers that go, as bits: the fewest of them or, by price, the cheapest. */
         int leastToGo(boolean byPrice) {
             int best = 0;
-            int least = Integer.MAX_VALUE;
+            int least = ENDLESS;
             for (int gone = 0; gone < 1 << plain.standing; gone++) {
                 int cost = byPrice ? priceOf(gone) : Integer.bitCount(gone);
                 if (cost < least && leavesPeace(gone)) {
@@ -1205,21 +1206,19 @@ public final class NeverInLine {
             int a = plain.cornerAt(road, i);
             int b = plain.cornerAt(road, i + 1);
             int best = NOT;
-            int least = Integer.MAX_VALUE;
-            for (int point = 0; point < POINTS; point++) {
+            int least = ENDLESS;
+            for (int point = 0; point < POINTS && least > 0; point++) {
                 if (point == a || point == b || plain.hasTower(point)) {
                     continue;
                 }
-                int guilts = plain.guiltsBetween(a, point, road);
-                if (guilts < least) {
-                    guilts += plain.guiltsBetween(point, b, road);
-                }
+                int guilts = plain.guiltsBetween(a, point, road, least);
+                guilts += plain.guiltsBetween(point, b, road, least - guilts);
                 if (guilts < least) {
                     best = point;
                     least = guilts;
                 }
             }
-            savedByBend = plain.guiltsBetween(a, b, road) - least;
+            savedByBend = plain.guiltsBetween(a, b, road, ENDLESS) - least;
             return best;
         }
 
