@@ -485,6 +485,10 @@ final class PromiseTest {
         due("14: other", x.which(3), 2);
         law(x, "1");
         due("14: the first pair", x.which(2) * 10 + x.which(3), 1);
+        NeverInLine y = threeInLine();
+        y.road(p(0, 0), p(0, 9));
+        y.corner(0, p(0, 0));
+        due("14: road 0, stretch 0", y.which(0) * 10 + y.which(1), 0);
     }
 
     private static void led() {
@@ -644,6 +648,16 @@ final class PromiseTest {
         due("21: off the plain, too", x.moved(0, 903), NOT);
         due("21: to the edge", x.moved(0, 409) >= 0 ? 1 : 0, 1);
         due("21: at the road's point both lie in line for none", x.moved(0, 409), 1);
+        NeverInLine y = new NeverInLine();
+        y.tower(p(9, 9), 0);
+        due("21: by -9, -9", y.moved(0, 0), 0);
+        due("21: by 9, 9", y.moved(0, 1818), 0);
+        due("21: by 9, -9", y.moved(0, 1800), 0);
+        due("21: by -9, 10", y.moved(0, 19), BAD);
+        due("21: by 10, -9", y.moved(0, 1900), BAD);
+        y.tower(p(29, 29), 0);
+        due("21: beyond the last row", y.moved(1, 910), NOT);
+        due("21: beyond the last column", y.moved(1, 1009), NOT);
         due("21: xy", x.moved(0, 1919), BAD);
         due("21: xy y", x.moved(0, 919), BAD);
         due("21: xy below", x.moved(0, -1), BAD);
@@ -670,6 +684,11 @@ final class PromiseTest {
         for (int i = 0; i < 4; i++) {
             y.corner(0, 400 + i);
         }
+        NeverInLine ends = new NeverInLine();
+        ends.road(0, 1);
+        ends.road(899, 1);
+        due("22: neither end of it", ends.bent(0, 0), 2);
+        due("22: no end of it, but a corner of another", ends.bent(10, 0), 0);
         due("22: six corners", y.bent(0, 0), STATE);
         due("22: bad ahead", y.bent(5, 0), BAD);
         due("22: bad what ahead", y.bent(0, -1), BAD);
@@ -681,6 +700,10 @@ final class PromiseTest {
         due("23: point b", x.newly(0, -1), BAD);
         due("23: one", x.newly(7, 7), 0);
         due("23: a step", x.newly(7, 8), 1);
+        due("23: to the first point", x.newly(1, 0), 1);
+        due("23: to it from below", x.newly(30, 0), 1);
+        due("23: by the edges", x.newly(p(29, 0), p(29, 4)), 4);
+        due("23: along the last row", x.newly(870, 899), 29);
         due("23: rows do not join", x.newly(29, 30), 30);
         due("23: an end at a tower", x.newly(p(5, 5), 0), NOT);
         due("23: an end at a tower, one", x.newly(p(5, 5), p(5, 5)), NOT);
