@@ -204,7 +204,7 @@ public final class NeverInLine {
         if (plain.standing >= MOST_TOWERS) {
             return STATE;
         }
-        return what == 0 ? planner.freeInRow(y, height) : planner.firstFreeInRow(y, height);
+        return planner.freeInRow(y, height, what == 1);
     }
 
     public int years(int height, int what) {
@@ -1100,27 +1100,20 @@ public final class NeverInLine {
             this.plain = plain;
         }
 
-        int freeInRow(int row, int high) {
+        /** How many points of a row are free, or the first x. */
+        int freeInRow(int row, int high, boolean where) {
             int slot = plain.standing;
             plain.think(slot, high);
             int found = 0;
             for (int i = 0; i < WIDTH; i++) {
                 if (plain.isFreeFor(slot, WIDTH * row + i)) {
+                    if (where) {
+                        return i;
+                    }
                     found++;
                 }
             }
-            return found;
-        }
-
-        int firstFreeInRow(int row, int high) {
-            int slot = plain.standing;
-            plain.think(slot, high);
-            for (int i = 0; i < WIDTH; i++) {
-                if (plain.isFreeFor(slot, WIDTH * row + i)) {
-                    return i;
-                }
-            }
-            return NOT;
+            return where ? NOT : found;
         }
 
         /** How many towers come year by year, or where the last one stands. */
