@@ -21,6 +21,9 @@ final class LineEdgeTest {
         guiltyMeets();
         guiltyAlong();
         guiltyStopped();
+        guiltyStoppedAlong();
+        stretchesOfRoads();
+        behindTheLastCorner();
         guiltsRefused();
         guiltsAll();
         whichEdges();
@@ -294,6 +297,68 @@ final class LineEdgeTest {
         }
     }
 
+    /** From where a road meets the line between whole points, past forests that lie on the line. */
+    private static void guiltyStoppedAlong() {
+        int[][] rows = {
+            // A forest on the line, as times of its step; whether it stops the way from 2.5 steps on to the towers 5 and 6 steps on.
+            {0, 2, 1}, {0, 3, 0}, {1, 2, 1}, {2, 3, 0}, {3, 4, 0}, {4, 5, 0}, {5, 6, 0}, {5, 7, 0}, {6, 7, 1}, {7, 8, 1}, {0, 14, 0}, {3, 14, 0},
+        };
+        for (int[] row : rows) {
+            int want = row[2] == 1 ? 10002 : NOT;
+            String told = row[0] + " to " + row[1];
+            due("12: slant, a forest " + told, onLine(0, 2, 1, row, p(5, 0), p(5, 5)), want);
+            due("12: steep, a forest " + told, onLine(0, 1, 2, row, p(0, 5), p(5, 5)), want);
+            due("12: upright, a forest " + told, onLine(1, 0, 1, row, p(0, 2), p(2, 3)), want);
+            due("12: level, a forest " + told, onLine(30, 1, 0, row, p(2, 0), p(3, 2)), want);
+        }
+    }
+
+    /** The fraction where a road across the line, 2.5 steps behind its beginning, sees towers 5 and 6 steps on in line. */
+    private static int onLine(int begin, int dx, int dy, int[] row, int a, int b) {
+        int step = p(dx, dy);
+        NeverInLine x = two(begin + 5 * step, begin + 6 * step);
+        x.forest(begin + row[1] * step, begin + row[0] * step);
+        return fraction(x, a, b);
+    }
+
+    /** Each road has its own corners, however many the others have. */
+    private static void stretchesOfRoads() {
+        for (int many = 0; many < 4; many++) {
+            NeverInLine x = Twins.made(States::three);
+            for (int r = 0; r < 4; r++) {
+                x.road(p(0, 5), p(1, 5));
+                for (int i = 0; r == many && i < 4; i++) {
+                    x.corner(r, p(i % 2, 5));
+                }
+            }
+            for (int r = 0; r < 4; r++) {
+                for (int i = 0; i < 10; i++) {
+                    int last = r == many ? 4 : 0;
+                    due("12: road " + r + "'s stretch " + i, x.guilty(10 * r + i, 12, 1), i <= last ? 1 : BAD);
+                    due("22: road " + r + "'s stretch " + i, x.bent(10 * r + i, 1), i > last ? BAD : r == many ? NeverInLine.STATE : 24 + 3);
+                }
+            }
+        }
+    }
+
+    /** No stretch leads from a road's last corner on, to (0, 0) or to the next road's first corner. */
+    private static void behindTheLastCorner() {
+        for (int more = 0; more < 4; more += 3) {
+            NeverInLine x = Twins.made(States::three);
+            x.road(p(0, 9), p(1, 9));
+            for (int i = 0; i <= more; i++) {
+                x.corner(0, p(i % 2, 9));
+            }
+            x.road(p(1, 0), p(2, 0));
+            due("13: no guilts", x.guilts(-1) + x.guilts(0) + x.guilts(1), 0);
+            due("14: all is lawful", x.which(0), NOT);
+            due("15: none", x.led(0) + x.led(1) + x.led(2), 0);
+            due("19: none has to go", x.fewest() + x.cheapest(0) + x.cheapest(1), 0);
+            due("21: in its row", x.moved(2, 1009), 0);
+            due("17: free in their row", x.free(5, 0, 0), 27);
+        }
+    }
+
     // ---- promises 13, 14, 15
 
     private static void guiltsRefused() {
@@ -322,6 +387,9 @@ final class LineEdgeTest {
         }
         for (int t = 0; t < 10; t++) {
             due("15: nine pairs on twenty stretches", x.led(t), 180);
+        }
+        for (int ab = 0; ab < 100; ab++) {
+            due("12: each pair, " + ab, x.guilty(34, ab, 0) * 10 + x.guilty(34, ab, 1), ab % 11 == 0 ? 11 * BAD : 1);
         }
         NeverInLine y = Twins.made(States::three);
         y.road(p(0, 0), p(0, 5));
@@ -397,6 +465,12 @@ final class LineEdgeTest {
         x.road(p(29, 5), p(29, 9));
         States.law(x, "n=1");
         due("15: as the lesser and as the other", x.led(0) * 100 + x.led(1) * 10 + x.led(2), 11);
+        NeverInLine within = Twins.made(States::three);
+        within.road(p(0, 0), p(0, 29));
+        within.road(p(29, 29), p(29, 1));
+        due("15: within a stretch", within.led(0) * 100 + within.led(1) * 10 + within.led(2), 444);
+        due("19: within a stretch", within.fewest(), 3);
+        due("20: within a stretch", within.cheapest(0), 3);
     }
 
     // ---- promise 16

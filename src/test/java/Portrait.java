@@ -62,6 +62,14 @@ final class Portrait {
             tell(all, x.line(12, 150, k));
             tell(all, x.line(21, 179, k));
         }
+        all.append(" which");
+        for (int what = 0; what < 4; what++) {
+            tell(all, x.which(what));
+        }
+        all.append(" go");
+        tell(all, x.fewest());
+        tell(all, x.cheapest(0));
+        tell(all, x.cheapest(1));
     }
 
     private static String tape(NeverInLine x) {

@@ -21,6 +21,7 @@ final class SightEdgeTest {
         changesLatestFirst();
         changesDoneAgain();
         changesKept();
+        changesMixed();
         changesTogether();
         CHECK.end();
     }
@@ -312,6 +313,36 @@ final class SightEdgeTest {
         due("27: still 40", y.count(5), 40);
         due("27: 39 still", y.undo(), 39);
         due("27: it was 9", y.of(1, 1), 9);
+    }
+
+    /** More changes than are kept, of each tower and sort. */
+    private static void changesMixed() {
+        NeverInLine x = Twins.made(States::three);
+        int many = 47;
+        int[][] was = new int[many + 1][3];
+        for (int i = 0; i <= many; i++) {
+            for (int t = 0; t < 3; t++) {
+                was[i][t] = traits(x, t);
+            }
+            int tower = i % 3;
+            int what = i / 3 % 3;
+            if (i < many) {
+                x.mend(tower, what, what == 0 ? (x.of(tower, 1) + 2) % 10 : what == 1 ? 50 + i : 1 - x.of(tower, 3));
+            }
+        }
+        for (int i = many - 1; i >= many - 40; i--) {
+            due("27: of 40 kept", x.undo(), i - (many - 40));
+            for (int t = 0; t < 3; t++) {
+                due("27: change " + i + " undone, tower " + t, traits(x, t), was[i][t]);
+            }
+        }
+        due("27: the seven ahead are not kept", x.undo(), STATE);
+        for (int i = many - 39; i <= many; i++) {
+            due("28: of 40 kept", x.redo(), many - i);
+            for (int t = 0; t < 3; t++) {
+                due("28: change " + i + " done again, tower " + t, traits(x, t), was[i][t]);
+            }
+        }
     }
 
     private static void changesTogether() {

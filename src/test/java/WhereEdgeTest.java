@@ -19,6 +19,7 @@ final class WhereEdgeTest {
         yearsRefused();
         yearsFull();
         yearsPlaces();
+        yearsHeights();
         goRefused();
         fewestEdges();
         cheapestEdges();
@@ -26,6 +27,7 @@ final class WhereEdgeTest {
         movedEdges();
         bentRefused();
         bentEdges();
+        bentFirstAndLast();
         newlyRefused();
         newlyEdges();
         newlyNot();
@@ -33,6 +35,8 @@ final class WhereEdgeTest {
         gameFull();
         gamePlaces();
         gameNumber();
+        gamePairs();
+        gamePairsByLaw();
         CHECK.end();
     }
 
@@ -221,6 +225,17 @@ final class WhereEdgeTest {
         }
     }
 
+    private static void yearsHeights() {
+        NeverInLine x = new NeverInLine();
+        x.tower(p(5, 0), 0);
+        x.road(p(0, 0), p(0, 1));
+        States.law(x, "n=0&b=7");
+        for (int again = 0; again < 2; again++) {
+            due("18: of height 7 none comes behind (5, 0) in its row", x.years(7, 1), p(5, 1));
+            due("18: of height 6 they come", x.years(6, 1), p(10, 0));
+        }
+    }
+
     // ---- promises 19, 20
 
     private static void goRefused() {
@@ -404,6 +419,46 @@ final class WhereEdgeTest {
         wide.corner(0, p(0, 28));
         due("22: a corner in line stays: the first of like ones", wide.bent(0, 0), 0);
         due("22: its two guilts stay", wide.bent(0, 1), 2);
+    }
+
+    /** Towers and forests where the last point is the best one, and where a point below the last row would be better. */
+    private static void bentFirstAndLast() {
+        int[] towers = {249, 746, 717, 5, 715, 683, 773, 523};
+        bent(towers, new int[0], 868, 807, 899, 1);
+        int[] four = {324, 564, 380, 246};
+        int[] forests = {71, 219, 570, 519, 463, 590, 211, 155, 894, 785, 585, 760, 563, 674};
+        bent(four, forests, 896, 827, 185, 1);
+    }
+
+    /** What is due by hand, and by each road that is laid so. */
+    private static void bent(int[] towers, int[] forests, int a, int b, int point, int guilts) {
+        Consumer<NeverInLine> making = x -> {
+            for (int t : towers) {
+                x.tower(t, 0);
+            }
+            for (int f = 0; f < forests.length; f += 2) {
+                x.forest(forests[f], forests[f + 1]);
+            }
+        };
+        int first = NOT;
+        int least = MAX;
+        for (int c = 0; c < 900; c++) {
+            NeverInLine x = Twins.made(making);
+            x.road(a, c);
+            if (c != a && c != b && x.tower(c, 0) != BAD) {
+                x = Twins.made(making);
+                x.road(a, c);
+                x.corner(0, b);
+                first = x.guilts(0) < least ? c : first;
+                least = Math.min(least, x.guilts(0));
+            }
+        }
+        NeverInLine x = Twins.made(making);
+        x.road(a, b);
+        due("22: the best point", x.bent(0, 0), point);
+        due("22: its guilts", x.bent(0, 1), guilts);
+        due("22: the best point by roads", first, point);
+        due("22: its guilts by roads", least, guilts);
     }
 
     /** The least guilts of all by one corner more in stretch 0 of road 0, by roads that are laid so. */
@@ -593,6 +648,40 @@ final class WhereEdgeTest {
             }
         }
         return false;
+    }
+
+    private static void gamePairs() {
+        // Of the square at (10, 10) the pairs that a road sees in line, and the first point by which who begins wins.
+        int[][] rows = {
+            {p(0, 10), p(1, 10), p(10, 10)}, {p(0, 11), p(1, 11), p(10, 10)}, {p(10, 0), p(10, 1), p(10, 10)}, {p(11, 0), p(11, 1), p(10, 10)},
+            {p(0, 0), p(0, 1), p(10, 10)}, {p(0, 21), p(0, 22), p(10, 10)}, {p(0, 10), p(0, 11), NOT}, {p(10, 0), p(11, 0), NOT},
+            {p(29, 10), p(29, 11), NOT}, {p(0, 12), p(0, 13), NOT}, {p(0, 0), p(0, 29), NOT},
+        };
+        for (int[] row : rows) {
+            NeverInLine x = new NeverInLine();
+            x.road(row[0], row[1]);
+            due("24: by a road " + row[0] + " to " + row[1], x.game(p(10, 10), 20, 1), row[2]);
+        }
+        NeverInLine rowwise = new NeverInLine();
+        rowwise.road(p(0, 9), p(0, 13));
+        due("24: one to each of three rows", rowwise.game(p(10, 10), 30, 1), p(10, 10));
+        NeverInLine two = new NeverInLine();
+        two.road(p(0, 10), p(0, 11));
+        due("24: one to each of two rows, three to the third", two.game(p(10, 10), 30, 0), 1);
+    }
+
+    private static void gamePairsByLaw() {
+        NeverInLine x = new NeverInLine();
+        x.road(p(0, 11), p(1, 11));
+        due("24: one pair in line: three may be put", x.game(p(10, 10), 20, 1), p(10, 10));
+        Object[][] rows = {
+            {"a=5&b=5", 25, 1}, {"a=5&b=5", 24, 0}, {"a=5&b=5", 25, 1}, {"a=4|b=4", 25, 0}, {"o=0", 20, 1}, {"o", 20, 0}, {"k=0", 20, 1}, {"k=1", 20, 0},
+            {"n=10&m=10", 20, 1}, {"m=11", 20, 0}, {"n<10", 20, 0}, {"0", 29, 0}, {"1", 29, 1},
+        };
+        for (Object[] row : rows) {
+            States.law(x, (String) row[0]);
+            due("24: two that are put, by " + row[0] + " with " + row[1], x.game(p(10, 10), (Integer) row[1], 0), (Integer) row[2]);
+        }
     }
 
     private static void gameNumber() {
