@@ -2,13 +2,9 @@ import java.util.function.Consumer;
 import java.util.function.ToLongFunction;
 
 /** Promises 29 to 38: bodies, their acts and trace, shelves and their rows, counts, at their edges. */
-final class ActEdgeTest {
-    private static final int BAD = NeverInLine.BAD, FULL = NeverInLine.FULL;
-    private static final int MIN = Integer.MIN_VALUE, MAX = Integer.MAX_VALUE;
+final class ActEdgeTest extends Edges {
     private static final int[] NO_SHELVES = {-1, 6, 7, MIN, MAX};
     private static final int BYTES = 0, SHORTS = 1, INTS = 2, LONGS = 3, BOOLEANS = 4;
-    private static final Check CHECK = new Check("acts' edges");
-    private static final Twins TWINS = new Twins(CHECK);
 
     private ActEdgeTest() { }
 
@@ -34,20 +30,6 @@ final class ActEdgeTest {
         countRefused();
         countAll();
         CHECK.end();
-    }
-
-    private static void due(String call, long got, long want) {
-        CHECK.due(call, got, want);
-    }
-
-    private static void refused(String call, Consumer<NeverInLine> making, ToLongFunction<NeverInLine> made, long want) {
-        TWINS.refused(call, making, made, want);
-    }
-
-    private static void bad(String call, ToLongFunction<NeverInLine> made) {
-        refused(call + " on nothing", States::empty, made, BAD);
-        refused(call + " on some", States::rich, made, BAD);
-        refused(call + " on all full", States::full, made, BAD);
     }
 
     // ---- promises 29, 30, 31

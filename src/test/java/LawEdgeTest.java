@@ -1,12 +1,8 @@
 /** Promises 7 and 8: the tape, each byte that a text goes on with, and the edges of what a text says. */
-final class LawEdgeTest {
-    private static final int BAD = NeverInLine.BAD, FULL = NeverInLine.FULL;
-    private static final int MIN = Integer.MIN_VALUE, MAX = Integer.MAX_VALUE;
+final class LawEdgeTest extends Edges {
     private static final String DIGITS = "0123456789", NAMES = "abokmn", AHEAD = "!-(";
     private static final String COMPARING = "<=>", OTHER_SIGNS = "|&+-*/%", ENDS = "?;";
     private static final String SMALLEST = "(2*1024*1024*1024)", GREATEST = "(2*1024*1024*1024-1)";
-    private static final Check CHECK = new Check("law's edges");
-    private static final Twins TWINS = new Twins(CHECK);
 
     private LawEdgeTest() { }
 
@@ -26,10 +22,6 @@ final class LawEdgeTest {
         signs();
         names();
         CHECK.end();
-    }
-
-    private static void due(String call, long got, long want) {
-        CHECK.due(call, got, want);
     }
 
     private static NeverInLine fed(String text) {
@@ -166,10 +158,21 @@ final class LawEdgeTest {
             States.law(x, fault);
             due("8: the law is as it was behind '" + fault + "'", x.line(1, 0, 0), 1);
         }
+        TWINS.alike("8: a fault changes nothing but the tape, and it", y -> {
+            ruled(y);
+            States.law(y, "0+");
+        }, LawEdgeTest::ruled);
         States.law(x, "0");
         due("8: another law", x.line(1, 0, 0), 0);
         States.law(x, "b>a+3");
         due("8: and one more", x.line(1, 0, 0), 1);
+    }
+
+    private static void ruled(NeverInLine x) {
+        States.three(x);
+        x.road(150, 151);
+        States.law(x, "n=1");
+        x.mend(0, 0, 9);
     }
 
     // ---- promise 8: what a text says

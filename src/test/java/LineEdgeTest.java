@@ -1,13 +1,5 @@
-import java.util.function.Consumer;
-import java.util.function.ToLongFunction;
-
 /** Promises 11 to 16: towers in line, stopped, guilty, seen, at the edges of what counts. */
-final class LineEdgeTest {
-    private static final int BAD = NeverInLine.BAD, NOT = NeverInLine.NOT;
-    private static final int MIN = Integer.MIN_VALUE, MAX = Integer.MAX_VALUE;
-    private static final Check CHECK = new Check("lines' edges");
-    private static final Twins TWINS = new Twins(CHECK);
-
+final class LineEdgeTest extends Edges {
     private LineEdgeTest() { }
 
     public static void main(String[] args) {
@@ -33,24 +25,6 @@ final class LineEdgeTest {
         seenHidden();
         seenStopped();
         CHECK.end();
-    }
-
-    private static void due(String call, long got, long want) {
-        CHECK.due(call, got, want);
-    }
-
-    private static void refused(String call, Consumer<NeverInLine> making, ToLongFunction<NeverInLine> made, long want) {
-        TWINS.refused(call, making, made, want);
-    }
-
-    private static void bad(String call, ToLongFunction<NeverInLine> made) {
-        refused(call + " on nothing", States::empty, made, BAD);
-        refused(call + " on some", States::rich, made, BAD);
-        refused(call + " on all full", States::full, made, BAD);
-    }
-
-    private static int p(int x, int y) {
-        return States.p(x, y);
     }
 
     /** Towers 0 and 1 of height 0 at two points. */
@@ -246,7 +220,9 @@ final class LineEdgeTest {
             {p(0, 0), p(9, 6), 5, 6}, {p(0, 4), p(29, 6), NOT, 0}, {p(9, 4), p(10, 29), 1, 25}, {p(9, 4), p(10, 5), NOT, 0}, {p(9, 4), p(10, 6), 1, 2},
             {p(9, 4), p(11, 6), NOT, 0}, {p(10, 0), p(10, 29), NOT, 0}, {p(20, 0), p(20, 29), NOT, 0}, {p(15, 0), p(15, 29), NOT, 0}, {p(21, 4), p(21, 6), 1, 2},
             {p(20, 4), p(21, 6), 1, 2}, {p(19, 4), p(20, 6), NOT, 0}, {p(0, 4), p(29, 4), NOT, 0}, {p(0, 6), p(29, 6), NOT, 0}, {p(0, 0), p(29, 29), 5, 29}, {p(0, 0), p(29, 12), NOT, 0},
-            {p(29, 29), p(29, 5), 1, 1}, {p(29, 5), p(0, 29), 0, 1}, {p(10, 5), p(10, 9), NOT, 0}, {p(10, 9), p(20, 5), NOT, 0}, {p(0, 29), p(1, 0), 24, 29},
+            {p(29, 29), p(29, 5), 1, 1}, {p(29, 5), p(0, 29), 0, 1}, {p(10, 5), p(10, 9), NOT, 0}, {p(10, 9), p(20, 5), NOT, 0},
+            {p(10, 5), p(0, 9), NOT, 0}, {p(15, 5), p(0, 9), NOT, 0}, {p(20, 5), p(29, 9), NOT, 0}, {p(0, 9), p(15, 5), NOT, 0}, {p(29, 9), p(20, 5), NOT, 0},
+            {p(0, 29), p(1, 0), 24, 29},
         };
         for (int[] row : rows) {
             int want = row[2] == NOT ? NOT : 10000 * row[2] + row[3];
@@ -335,7 +311,7 @@ final class LineEdgeTest {
                 for (int i = 0; i < 10; i++) {
                     int last = r == many ? 4 : 0;
                     due("12: road " + r + "'s stretch " + i, x.guilty(10 * r + i, 12, 1), i <= last ? 1 : BAD);
-                    due("22: road " + r + "'s stretch " + i, x.bent(10 * r + i, 1), i > last ? BAD : r == many ? NeverInLine.STATE : 24 + 3);
+                    due("22: road " + r + "'s stretch " + i, x.bent(10 * r + i, 1), i > last ? BAD : r == many ? STATE : 24 + 3);
                 }
             }
         }
@@ -414,6 +390,12 @@ final class LineEdgeTest {
             refused("14: nothing there", States::empty, x -> x.which(it), NOT);
             TWINS.asks("14: which", States::rich, x -> x.which(it));
         }
+        NeverInLine four = Twins.made(x -> {
+            States.full(x);
+            x.law();
+            States.law(x, "0");
+        });
+        due("14: four roads, ten towers, all lawful", four.which(0), NOT);
     }
 
     private static int told(NeverInLine x) {

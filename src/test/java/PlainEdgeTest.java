@@ -1,14 +1,8 @@
 import java.util.Arrays;
-import java.util.function.Consumer;
-import java.util.function.ToLongFunction;
 
 /** Promises 1 to 10, law and tape apart: the least and the greatest that is taken, what lies beyond, nothing there, all full. */
-final class PlainEdgeTest {
-    private static final int BAD = NeverInLine.BAD, FULL = NeverInLine.FULL;
-    private static final int MIN = Integer.MIN_VALUE, MAX = Integer.MAX_VALUE;
+final class PlainEdgeTest extends Edges {
     private static final int[] NO_POINTS = {-1, -30, -900, 900, 901, 930, MIN, MAX};
-    private static final Check CHECK = new Check("plain's edges");
-    private static final Twins TWINS = new Twins(CHECK);
 
     private PlainEdgeTest() { }
 
@@ -33,25 +27,6 @@ final class PlainEdgeTest {
         CHECK.end();
     }
 
-    private static void due(String call, long got, long want) {
-        CHECK.due(call, got, want);
-    }
-
-    private static void refused(String call, Consumer<NeverInLine> making, ToLongFunction<NeverInLine> made, long want) {
-        TWINS.refused(call, making, made, want);
-    }
-
-    /** What is BAD in any state, also where it would be FULL. */
-    private static void bad(String call, ToLongFunction<NeverInLine> made) {
-        refused(call + " on nothing", States::empty, made, BAD);
-        refused(call + " on some", States::rich, made, BAD);
-        refused(call + " on all full", States::full, made, BAD);
-    }
-
-    private static int p(int x, int y) {
-        return States.p(x, y);
-    }
-
     // ---- promise 1
 
     private static void newObject() {
@@ -70,11 +45,11 @@ final class PlainEdgeTest {
             due("1: nor a row", x.put(shelf, 0, 0), -11);
         }
         due("1: no trace", x.trace(0), BAD);
-        due("1: nothing to undo", x.undo(), NeverInLine.STATE);
-        due("1: nothing to redo", x.redo(), NeverInLine.STATE);
+        due("1: nothing to undo", x.undo(), STATE);
+        due("1: nothing to redo", x.redo(), STATE);
         due("1: nothing seen", x.seen(899), 0);
         due("1: no guilts", x.guilts(-1), 0);
-        due("1: all is lawful", x.which(0), NeverInLine.NOT);
+        due("1: all is lawful", x.which(0), NOT);
         due("1: the tape is empty", x.law(), -100);
         NeverInLine other = new NeverInLine();
         x.tower(0, 0);

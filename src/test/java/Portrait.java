@@ -1,5 +1,6 @@
 import java.util.List;
 import java.util.function.Function;
+import java.util.function.ToIntFunction;
 
 /**
  * All that can be asked of an object, in sides; each side is taken from an object of its own, since some change what they
@@ -80,21 +81,19 @@ final class Portrait {
     }
 
     private static String back(NeverInLine x) {
-        StringBuilder all = new StringBuilder("undo");
-        int left = 0;
-        for (int i = 0; i < 41 && left >= 0; i++) {
-            left = x.undo();
-            tell(all, left);
-            traits(x, all);
-        }
-        return all.toString();
+        return steps("undo", x, NeverInLine::undo);
     }
 
     private static String forth(NeverInLine x) {
-        StringBuilder all = new StringBuilder("redo");
+        return steps("redo", x, NeverInLine::redo);
+    }
+
+    /** What the towers with changes are told as after each step, till there is none. */
+    private static String steps(String told, NeverInLine x, ToIntFunction<NeverInLine> step) {
+        StringBuilder all = new StringBuilder(told);
         int left = 0;
         for (int i = 0; i < 41 && left >= 0; i++) {
-            left = x.redo();
+            left = step.applyAsInt(x);
             tell(all, left);
             traits(x, all);
         }

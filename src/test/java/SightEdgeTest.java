@@ -1,12 +1,8 @@
 import java.util.function.Consumer;
-import java.util.function.ToLongFunction;
 
 /** Promises 25 to 28: sights, where towers can be, changes undone and done again, at their edges. */
-final class SightEdgeTest {
-    private static final int BAD = NeverInLine.BAD, NOT = NeverInLine.NOT, FULL = NeverInLine.FULL, STATE = NeverInLine.STATE;
-    private static final int MIN = Integer.MIN_VALUE, MAX = Integer.MAX_VALUE;
-    private static final Check CHECK = new Check("sights' edges");
-    private static final Twins TWINS = new Twins(CHECK);
+final class SightEdgeTest extends Edges {
+    private static final int MIXED = 47;
 
     private SightEdgeTest() { }
 
@@ -24,24 +20,6 @@ final class SightEdgeTest {
         changesMixed();
         changesTogether();
         CHECK.end();
-    }
-
-    private static void due(String call, long got, long want) {
-        CHECK.due(call, got, want);
-    }
-
-    private static void refused(String call, Consumer<NeverInLine> making, ToLongFunction<NeverInLine> made, long want) {
-        TWINS.refused(call, making, made, want);
-    }
-
-    private static void bad(String call, ToLongFunction<NeverInLine> made) {
-        refused(call + " on nothing", States::empty, made, BAD);
-        refused(call + " on some", States::rich, made, BAD);
-        refused(call + " on all full", States::full, made, BAD);
-    }
-
-    private static int p(int x, int y) {
-        return States.p(x, y);
     }
 
     // ---- promise 25
@@ -315,32 +293,45 @@ final class SightEdgeTest {
         due("27: it was 9", y.of(1, 1), 9);
     }
 
-    /** More changes than are kept, of each tower and sort. */
-    private static void changesMixed() {
-        NeverInLine x = Twins.made(States::three);
-        int many = 47;
-        int[][] was = new int[many + 1][3];
-        for (int i = 0; i <= many; i++) {
+    /** More changes than are kept, of each tower and sort; what the towers are told as after each of them. */
+    private static int[][] mixed(NeverInLine x) {
+        States.three(x);
+        int[][] traits = {{3, 1, 0}, {3, 2, 0}, {3, 4, 0}};
+        int[][] told = new int[MIXED + 1][3];
+        for (int i = 0; i <= MIXED; i++) {
             for (int t = 0; t < 3; t++) {
-                was[i][t] = traits(x, t);
+                told[i][t] = 1000 * traits[t][0] + 10 * traits[t][1] + traits[t][2];
             }
             int tower = i % 3;
             int what = i / 3 % 3;
-            if (i < many) {
-                x.mend(tower, what, what == 0 ? (x.of(tower, 1) + 2) % 10 : what == 1 ? 50 + i : 1 - x.of(tower, 3));
+            int v = what == 0 ? (traits[tower][0] + 2) % 10 : what == 1 ? 50 + i : 1 - traits[tower][2];
+            if (i < MIXED) {
+                due("9: it was", x.mend(tower, what, v), traits[tower][what]);
             }
+            traits[tower][what] = v;
         }
-        for (int i = many - 1; i >= many - 40; i--) {
-            due("27: of 40 kept", x.undo(), i - (many - 40));
+        return told;
+    }
+
+    private static void changesMixed() {
+        NeverInLine x = new NeverInLine();
+        int[][] told = mixed(x);
+        for (int i = MIXED - 1; i >= MIXED - 40; i--) {
+            due("27: of 40 kept", x.undo(), i - (MIXED - 40));
             for (int t = 0; t < 3; t++) {
-                due("27: change " + i + " undone, tower " + t, traits(x, t), was[i][t]);
+                due("27: change " + i + " undone, tower " + t, traits(x, t), told[i][t]);
             }
         }
         due("27: the seven ahead are not kept", x.undo(), STATE);
-        for (int i = many - 39; i <= many; i++) {
-            due("28: of 40 kept", x.redo(), many - i);
+        NeverInLine y = new NeverInLine();
+        mixed(y);
+        for (int i = 0; i < 40; i++) {
+            y.undo();
+        }
+        for (int i = MIXED - 39; i <= MIXED; i++) {
+            due("28: of 40 kept", y.redo(), MIXED - i);
             for (int t = 0; t < 3; t++) {
-                due("28: change " + i + " done again, tower " + t, traits(x, t), was[i][t]);
+                due("28: change " + i + " done again, tower " + t, traits(y, t), told[i][t]);
             }
         }
     }

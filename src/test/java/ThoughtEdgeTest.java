@@ -4,9 +4,7 @@ import java.util.function.Consumer;
 import java.util.function.ToLongFunction;
 
 /** What only asks, or is done in thought, leaves all as it was: each such call, on states with nothing, with some, with all full. */
-final class ThoughtEdgeTest {
-    private static final Check CHECK = new Check("thoughts' edges");
-    private static final Twins TWINS = new Twins(CHECK);
+final class ThoughtEdgeTest extends Edges {
     private static final Map<String, ToLongFunction<NeverInLine>> CALLS = new LinkedHashMap<>();
     private static final Map<String, Consumer<NeverInLine>> MAKINGS = new LinkedHashMap<>();
 
@@ -23,10 +21,6 @@ final class ThoughtEdgeTest {
         repeated();
         towerAfterThought();
         CHECK.end();
-    }
-
-    private static int p(int x, int y) {
-        return States.p(x, y);
     }
 
     private static void calls() {
@@ -89,8 +83,8 @@ final class ThoughtEdgeTest {
             NeverInLine all = Twins.made(making.getValue());
             for (Map.Entry<String, ToLongFunction<NeverInLine>> call : CALLS.entrySet()) {
                 long alone = call.getValue().applyAsLong(Twins.made(making.getValue()));
-                CHECK.due(call.getKey() + " on " + making.getKey() + " after all ahead", call.getValue().applyAsLong(all), alone);
-                CHECK.due(call.getKey() + " on " + making.getKey() + " again", call.getValue().applyAsLong(all), alone);
+                due(call.getKey() + " on " + making.getKey() + " after all ahead", call.getValue().applyAsLong(all), alone);
+                due(call.getKey() + " on " + making.getKey() + " again", call.getValue().applyAsLong(all), alone);
             }
         }
     }
@@ -102,16 +96,16 @@ final class ThoughtEdgeTest {
             States.law(x, "o=1&a=0&b=7&m=1");
             call.getValue().applyAsLong(x);
             x.tower(p(15, 5), 7001);
-            CHECK.due("2: a tower behind it after " + call.getKey(), x.line(1, p(0, 5), 0), 1);
-            CHECK.due("2: its guilts after " + call.getKey(), x.guilts(-1), 1);
+            due("2: a tower behind it after " + call.getKey(), x.line(1, p(0, 5), 0), 1);
+            due("2: its guilts after " + call.getKey(), x.guilts(-1), 1);
             NeverInLine y = Twins.made(ThoughtEdgeTest::one);
             States.law(y, "o=0&b=0");
             call.getValue().applyAsLong(y);
             y.row(0, 1, 3);
             y.put(0, 0, p(15, 5));
             y.put(0, 2, 99);
-            CHECK.due("3: one comes from a row after " + call.getKey(), y.towers(0, 0, 1), 1);
-            CHECK.due("3: its guilts after " + call.getKey(), y.guilts(-1), 1);
+            due("3: one comes from a row after " + call.getKey(), y.towers(0, 0, 1), 1);
+            due("3: its guilts after " + call.getKey(), y.guilts(-1), 1);
         }
     }
 }

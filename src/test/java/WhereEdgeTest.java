@@ -1,13 +1,8 @@
 import java.util.function.Consumer;
-import java.util.function.ToLongFunction;
 
 /** Promises 17 to 24: free points, years, who has to go, towers moved, roads bent and new, the game, at their edges. */
-final class WhereEdgeTest {
-    private static final int BAD = NeverInLine.BAD, NOT = NeverInLine.NOT, STATE = NeverInLine.STATE;
-    private static final int MIN = Integer.MIN_VALUE, MAX = Integer.MAX_VALUE;
+final class WhereEdgeTest extends Edges {
     private static final int[] NO_POINTS = {-1, 900, MIN, MAX}, NO_CHOICES = {-1, 2, 10, MIN, MAX}, NO_HEIGHTS = {-1, 10, MIN, MAX};
-    private static final Check CHECK = new Check("where's edges");
-    private static final Twins TWINS = new Twins(CHECK);
 
     private WhereEdgeTest() { }
 
@@ -38,24 +33,6 @@ final class WhereEdgeTest {
         gamePairs();
         gamePairsByLaw();
         CHECK.end();
-    }
-
-    private static void due(String call, long got, long want) {
-        CHECK.due(call, got, want);
-    }
-
-    private static void refused(String call, Consumer<NeverInLine> making, ToLongFunction<NeverInLine> made, long want) {
-        TWINS.refused(call, making, made, want);
-    }
-
-    private static void bad(String call, ToLongFunction<NeverInLine> made) {
-        refused(call + " on nothing", States::empty, made, BAD);
-        refused(call + " on some", States::rich, made, BAD);
-        refused(call + " on all full", States::full, made, BAD);
-    }
-
-    private static int p(int x, int y) {
-        return States.p(x, y);
     }
 
     private static NeverInLine lawless() {
