@@ -479,16 +479,19 @@ public final class NeverInLine {
                 return names[1] <= names[0] + 3 ? 1 : 0;
             }
             int top = 0;
+            boolean passedOver = false;
             for (int at = 0; at < length; at++) {
                 int c = code[at];
-                if (c >= -NAMES && top < MOST_CODE) {
+                if (passedOver) {
+                    passedOver = c != END;
+                } else if (c >= -NAMES && top < MOST_CODE) {
                     stack[top] = c >= 0 ? c : names[-1 - c];
                     top++;
                 } else if (c == END) {
                     return stack[0];
                 } else if (c == GUARD) {
                     top = 0;
-                    at = stack[0] != 0 ? at : endOfLine(at);
+                    passedOver = stack[0] == 0;
                 } else if (c == MINUS && top >= 1) {
                     stack[top - 1] = -stack[top - 1];
                 } else if (c == SIGN - '!' && top >= 1) {
@@ -499,14 +502,6 @@ public final class NeverInLine {
                 }
             }
             return 0;
-        }
-
-        private int endOfLine(int from) {
-            int at = from;
-            while (at < length && code[at] != END) {
-                at++;
-            }
-            return at;
         }
 
         private static int worked(int sign, int left, int right) {
@@ -1227,7 +1222,7 @@ public final class NeverInLine {
             for (int head = 0; head < queued && steps[b] == UNTRODDEN; head++) {
                 for (int way = 0; way < 4; way++) {
                     int point = neighbour(queue[head], way);
-                    if (point >= 0 && steps[point] == UNTRODDEN && isClear(point)) {
+                    if (point >= 0 && queued < POINTS && steps[point] == UNTRODDEN && isClear(point)) {
                         steps[point] = steps[queue[head]] + 1;
                         queue[queued] = point;
                         queued++;

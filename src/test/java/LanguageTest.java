@@ -10,6 +10,7 @@ import com.sun.source.tree.MemberReferenceTree;
 import com.sun.source.tree.MemberSelectTree;
 import com.sun.source.tree.MethodInvocationTree;
 import com.sun.source.tree.MethodTree;
+import com.sun.source.tree.NewArrayTree;
 import com.sun.source.tree.NewClassTree;
 import com.sun.source.tree.SynchronizedTree;
 import com.sun.source.tree.ThrowTree;
@@ -217,7 +218,19 @@ final class LanguageTest extends TreePathScanner<Void, Void> {
             never("rule 2: anonymous class", tree);
         }
         noteCall(trees.getElement(getCurrentPath()));
+        madeInCall(tree);
         return super.visitNewClass(tree, unused);
+    }
+
+    @Override
+    public Void visitNewArray(NewArrayTree tree, Void unused) {
+        madeInCall(tree);
+        return super.visitNewArray(tree, unused);
+    }
+
+    /** Rule 12 lets calls make objects; the class makes all of them with itself, and this keeps it so. */
+    private void madeInCall(Tree tree) {
+        check.holds("rule 12: made in a call" + where(tree), method == null || method.getKind() == ElementKind.CONSTRUCTOR);
     }
 
     @Override
